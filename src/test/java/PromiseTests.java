@@ -224,6 +224,9 @@ public final class PromiseTests {
     field(x, "w50,1;");
     due("none lacks", x.weather(3, 0), -1);
     due("the third", x.weather(2, 1), 1);
+    HalfOrNine y = with("w99,0;");
+    due("1 lacks", y.weather(1, 0), 1);
+    due("at TIMES 100", y.weather(1, 1), 100);
     refusals(x, 3, 2, 0, 0, 0);
   }
 
@@ -354,10 +357,10 @@ public final class PromiseTests {
 
   private static void proofs() {
     String[] fields = {"g10;p3,10;", "g10;p3,10;o5;", "g10;p3,10;o20;", "g10;p3,10;w50,0;", "g99;p0,99;o150;",
-        "g99;o39;"};
-    int[] proofs = {117, 5, -9, 0, 148, 160};
-    long[] gaps = {0, 0, -9, 500, -9, 0};
-    long[] halves = {7000, 2000, -9, 2500, -9, 10000};
+        "g99;o39;", "g99;o38;", "g99;p0,99;o100;", "g99;p0,99;o99;", "g10;p0,10;w50,0;"};
+    int[] proofs = {117, 5, -9, 0, 148, 160, 160, 7, 6, 1};
+    long[] gaps = {0, 0, -9, 500, -9, 0, 1000, -9, 0, 500};
+    long[] halves = {7000, 2000, -9, 2500, -9, 10000, 10000, -9, 0, 4500};
     for (int i = 0; i < fields.length; i++) {
       HalfOrNine x = with(fields[i]);
       promise = 15;
@@ -401,6 +404,8 @@ public final class PromiseTests {
     due("looks", x.looks(0, 0, 0), 50);
     due("looks with a FINE", x.looks(0, 0, 5), 25);
     due("never", x.looks(1, 0, 0), -9);
+    term(x, "w0");
+    due("only if he always looks", x.looks(2, 0, 0), 100);
     due("a FINE of 99", x.looks(1, 0, 99), 5);
     x.set(2, 2);
     due("SEED is taken all the same", x.looks(0, 0, 0), 42);
@@ -408,7 +413,7 @@ public final class PromiseTests {
     due("the owner's SEED", x.looks(0, 0, 0), 50);
     x.set(0, 0);
     due("of nothing", x.looks(0, 0, 0), 0);
-    due("no TERM ahead of -6", x.looks(2, 0, 100), -1);
+    due("no TERM ahead of -6", x.looks(3, 0, 100), -1);
     due("PAINS 1", x.looks(0, 1, 0), -1);
     due("fine below", x.looks(0, 0, -1), -4);
     due("fine above", x.looks(0, 0, 100), -6);
