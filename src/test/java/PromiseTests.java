@@ -1,62 +1,12 @@
 /** For each promise ordinary inputs, the edges that the document names, and wrong inputs; numbers reckoned by hand. */
-public final class PromiseTests {
-  private static final int TOLD = 1000000000;
-  private static final long TOLD_LONG = 4000000000000000000L;
-  private static final int LEAST = Integer.MIN_VALUE;
-  private static final int MOST = Integer.MAX_VALUE;
-
-  private static int checks = 0;
-  private static int wrong = 0;
-  private static int promise = 0;
-
-  private static void due(String call, long got, long want) {
-    checks++;
-    if (got != want) {
-      wrong++;
-      System.out.println("promise " + promise + ": " + call + " answered " + got + ", due is " + want);
-    }
-  }
-
-  private static void feed(HalfOrNine x, String s) {
-    for (int at = 0; at < s.length(); at += 8) {
-      int n = Math.min(8, s.length() - at);
-      long bytes = 0;
-      for (int i = 0; i < n; i++) bytes |= (long) s.charAt(at + i) << (8 * i);
-      x.feed(n, bytes);
-    }
-  }
-
-  private static int field(HalfOrNine x, String s) {
-    feed(x, s);
-    return x.field();
-  }
-
-  private static int term(HalfOrNine x, String s) {
-    feed(x, s);
-    return x.term();
-  }
-
-  /** A new object with a FIELD (nothing, if empty) and TERMS. */
-  private static HalfOrNine with(String field, String... terms) {
-    HalfOrNine x = new HalfOrNine();
-    if (!field.isEmpty()) field(x, field);
-    for (String t : terms) term(x, t);
-    return x;
-  }
-
+public final class PromiseTests extends Checks {
   /** HARVESTS 0, 0, 0 and 10, 15, 19 by PAINS 0, 1, 2 with COSTS 0, 1, 3; TERMS of each kind. */
   private static HalfOrNine ordinary() {
     return with("g10;p1,5;p2,4;w50,0;", "p1/2", "f9", "w6", "x1/2+3", "y1/4+1", "t5+4", "p9/9");
   }
 
-  /** No call more of one REFUSAL than told: the others stay. */
-  private static void refusals(HalfOrNine x, int one, int two, int three, int four, int six) {
-    int[] want = {one, two, three, four, 0, six};
-    for (int i = 0; i < 6; i++) due("count(" + (11 + i) + ")", x.count(11 + i), want[i]);
-  }
-
   private static void newObject() {
-    promise = 1;
+    says("promise 1");
     HalfOrNine x = new HalfOrNine();
     for (int what = 0; what <= 6; what++) due("count(" + what + ")", x.count(what), what == 2 ? 1 : 0);
     int[] first = {10, 0, 0, 0, 99, 10, 99, 10};
@@ -67,7 +17,7 @@ public final class PromiseTests {
   }
 
   private static void feeding() {
-    promise = 2;
+    says("promise 2");
     HalfOrNine x = new HalfOrNine();
     due("feed 3", x.feed(3, 'g' | '5' << 8 | ';' << 16 | 0x7700000000L), 3);
     due("the lowest first", x.field(), 1);
@@ -90,7 +40,7 @@ public final class PromiseTests {
   }
 
   private static void fields() {
-    promise = 3;
+    says("promise 3");
     String[] brokenTexts = {"", "g", "g;", "g1", "g01;", "g1000;", "g1,2;", "p1;", "p1,;", "p1,2", "x1;", "g1;;",
         "g1;G2;", "g1; ", "g100;g", "o1000;", "w0,301;x", "s1,2", "g00;", "p3,4;w5"};
     int[] places = {0, 1, 1, 2, 2, 4, 2, 2, 3, 4, 0, 3, 3, 3, 6, 4, 7, 4, 2, 7};
@@ -140,7 +90,7 @@ public final class PromiseTests {
   }
 
   private static void terms() {
-    promise = 4;
+    says("promise 4");
     String[] texts = {"", "p", "q1/2", "P1/2", "p0/2", "p1", "p1-", "p1/", "p1/0", "p3/2", "p30/2", "p30/29", "p1/100",
         "p100/2", "p1000/2", "p05/7", "p1/2/", "p1/2+3", "f", "f100", "f05", "f1/2", "f56x", "w100", "w9;", "x1/2",
         "x1/2+", "x1/2+100", "x1/2+05", "x1/2+3+", "y0/1+1", "y2/1+1", "y1/1", "t5", "t5/", "t5+", "t100+1", "t5+100",
@@ -165,7 +115,7 @@ public final class PromiseTests {
   }
 
   private static void termsOf() {
-    promise = 5;
+    says("promise 5");
     HalfOrNine x = with("", "p3/4", "f5", "w6", "x7/8+9", "y1/2+3", "t4+5");
     int[][] want = {{0, 3, 4, 0}, {1, 5, 0, 0}, {2, 6, 0, 0}, {3, 7, 8, 9}, {4, 1, 2, 3}, {5, 4, 0, 5}};
     for (int t = 0; t < 6; t++) {
@@ -179,7 +129,7 @@ public final class PromiseTests {
   }
 
   private static void settings() {
-    promise = 6;
+    says("promise 6");
     HalfOrNine x = new HalfOrNine();
     int[] first = {10, 0, 0, 0, 99, 10, 99, 10};
     int[] most = {99, 999, 99, 1, 99, 10, 99, 10};
@@ -211,7 +161,7 @@ public final class PromiseTests {
   }
 
   private static void weathers() {
-    promise = 7;
+    says("promise 7");
     HalfOrNine x = with("w30,50;w20,300;");
     int[][] want = {{30, 50}, {20, 300}, {50, 100}};
     for (int w = 0; w < 3; w++) {
@@ -231,7 +181,7 @@ public final class PromiseTests {
   }
 
   private static void harvests() {
-    promise = 8;
+    says("promise 8");
     HalfOrNine x = with("g9;p1,5;p1,7;w10,50;w10,0;w10,300;w10,33;");
     int[][] want = {{4, 0, 27, 2, 9}, {7, 0, 42, 4, 14}, {10, 0, 63, 6, 21}};
     for (int p = 0; p < 3; p++) {
@@ -248,7 +198,7 @@ public final class PromiseTests {
   }
 
   private static void whose() {
-    promise = 9;
+    says("promise 9");
     HalfOrNine x = ordinary();
     int[][] rows = {{0, 15, 0, 7, 8}, {0, 0, 0, 0, 0}, {1, 5, 0, -4, 9}, {2, 2, 0, 6, -4}, {3, 15, 0, 4, 11},
         {3, 1, 9, -3, 4}, {4, 10, 0, 2, 8}, {4, 10, 1, 5, 5}, {4, 10, 3, 10, 0}, {4, 10, 9, 10, 0}, {5, 9, 0, 4, 5},
@@ -278,7 +228,7 @@ public final class PromiseTests {
   }
 
   private static void minds() {
-    promise = 10;
+    says("promise 10");
     HalfOrNine x = with("m10,3;e0,0;");
     int[][] rows = {{0, 0, 0}, {0, 10, 100}, {0, 11, 103}, {0, 999, 3067}, {0, -1, -20}, {0, -999, -19980}, {1, 0, 0},
         {1, 999, 0}, {1, -5, -100}};
@@ -291,7 +241,7 @@ public final class PromiseTests {
   }
 
   private static void worths() {
-    promise = 11;
+    says("promise 11");
     HalfOrNine x = ordinary();
     long[][] rows = {{0, 0, 2500, 2500}, {0, 1, 2500, 4000}, {0, 2, 1500, 5000}, {1, 0, -8500, 9000},
         {1, 1, -7000, 9000}, {1, 2, -7000, 9000}, {2, 2, 3000, 500}, {2, 0, 6000, -4000}, {4, 0, 1000, 4000}};
@@ -311,7 +261,7 @@ public final class PromiseTests {
   }
 
   private static void bestPains() {
-    promise = 12;
+    says("promise 12");
     HalfOrNine x = ordinary();
     due("of several the least", x.pains(0), 0);
     due("of several the least, not the first", x.pains(1), 1);
@@ -323,7 +273,7 @@ public final class PromiseTests {
   }
 
   private static void taking() {
-    promise = 13;
+    says("promise 13");
     HalfOrNine x = ordinary();
     due("takes 0", x.takes(0), 1);
     due("does not take what is below", x.takes(1), 0);
@@ -337,7 +287,7 @@ public final class PromiseTests {
   }
 
   private static void means() {
-    promise = 14;
+    says("promise 14");
     HalfOrNine x = ordinary();
     int[][] rows = {{0, 0, 5, 2}, {0, 1, 5, 2}, {1, 0, -3, 2}, {1, 1, 9, 1}, {2, 0, 6, 1}, {2, 1, -1, 1},
         {6, 0, 15, 2}, {6, 1, 0, 1}};
@@ -363,15 +313,15 @@ public final class PromiseTests {
     long[] halves = {7000, 2000, -9, 2500, -9, 10000, 10000, -9, 0, 4500};
     for (int i = 0; i < fields.length; i++) {
       HalfOrNine x = with(fields[i]);
-      promise = 15;
+      says("promise 15");
       due("proof " + fields[i], x.proof(), proofs[i]);
-      promise = 16;
+      says("promise 16");
       due("gap " + fields[i], x.gap(), gaps[i]);
-      promise = 17;
+      says("promise 17");
       due("half " + fields[i], x.half(), halves[i]);
       refusals(x, 0, 0, 0, 0, 0);
     }
-    promise = 16;
+    says("promise 16");
     HalfOrNine x = with("g10;p3,10;w50,0;s1,0;");
     due("SEED is his: WAGE 4, not 3", x.gap(), 500);
     x = with("g10;p3,10;w50,0;");
@@ -381,7 +331,7 @@ public final class PromiseTests {
   }
 
   private static void lesses() {
-    promise = 18;
+    says("promise 18");
     HalfOrNine x = with("g10;", "p1/2", "x1/2+9");
     due("all", x.less(0, 0, 0, 0), 10);
     due("as long as it pays", x.less(0, 0, 49, 0), 10);
@@ -399,7 +349,7 @@ public final class PromiseTests {
     due("looks above", x.less(0, 0, 101, 0), -6);
     due("fine above", x.less(0, 0, 100, 100), -6);
     refusals(x, 3, 0, 0, 2, 2);
-    promise = 19;
+    says("promise 19");
     x.set(0, 10);
     due("looks", x.looks(0, 0, 0), 50);
     due("looks with a FINE", x.looks(0, 0, 5), 25);
@@ -421,7 +371,7 @@ public final class PromiseTests {
   }
 
   private static void years() {
-    promise = 20;
+    says("promise 20");
     HalfOrNine x = with("g10;", "p1/1", "p4/5", "y1/2+1");
     long[][] rows = {{0, 0, 1, 0, 10000}, {0, 0, 2, 1, 21000}, {0, 0, 3, 3, 37000}, {0, 3, 3, 3, 67000},
         {0, 1, 1, 0, 15000}, {1, 0, 2, 0, 16000}, {2, 0, 2, 1, 16000}};
@@ -445,7 +395,7 @@ public final class PromiseTests {
     refusals(x, 1, 2, 0, 2, 2);
     x = with("g10;p3,9;", "p1/1");
     due("PAINS each YEAR", x.years(0, 1, 1, 1), 21000);
-    promise = 21;
+    says("promise 21");
     x = with("g10;", "p1/1");
     due("leaving 1", x.leaving(0, 1), 5);
     due("leaving 2", x.leaving(0, 2), 3);
@@ -456,7 +406,7 @@ public final class PromiseTests {
   }
 
   private static void sorts() {
-    promise = 22;
+    says("promise 22");
     HalfOrNine x = with("g10;p3,10;", "p1/2", "f10");
     due("of like ones the first", x.offer(0, 1, 0), 0);
     due("of like ones the first, turned", x.offer(1, 0, 0), 0);
@@ -470,7 +420,7 @@ public final class PromiseTests {
     due("GOOD 10", x.offer(0, 1, 10), -1);
     due("GOOD -1", x.offer(0, 1, -1), -1);
     refusals(x, 4, 0, 0, 0, 0);
-    promise = 23;
+    says("promise 23");
     due("none and the other", x.parts(0, 1, 1), 1);
     x.set(1, 9);
     due("none and none", x.parts(0, 1, 1), 0);
@@ -483,14 +433,14 @@ public final class PromiseTests {
     due("no TERM", x.parts(-1, 1, 1), -1);
     due("no other TERM", x.parts(0, 2, 1), -1);
     refusals(x, 8, 0, 0, 0, 0);
-    promise = 22;
+    says("promise 22");
     x = with("g0;p0,5;p0,5;o11;", "f0");
     due("each STEP cut by itself", x.offer(0, 0, 1), -9);
     due("GOOD 2", x.offer(0, 0, 2), 0);
   }
 
   private static void owns() {
-    promise = 24;
+    says("promise 24");
     HalfOrNine x = with("g10;p3,10;", "p1/2");
     due("own 0", x.own(0, 0), 10);
     due("own 4", x.own(0, 4), 10);
@@ -509,7 +459,7 @@ public final class PromiseTests {
   }
 
   private static void bearing() {
-    promise = 25;
+    says("promise 25");
     HalfOrNine x = with("g10;", "p1/2", "w6", "f9");
     due("no HAIL", x.bears(0, 0), 0);
     due("a PART", x.bears(0, 20), 1000);
@@ -528,7 +478,7 @@ public final class PromiseTests {
 
   /** By seed 1 the DRAWS are 38, 58, 13, 15, 51, 27, 10, 19, 12, 86. */
   private static void debts() {
-    promise = 26;
+    says("promise 26");
     HalfOrNine x = ordinary();
     int[][] rows = {{0, 0}, {1, 0}, {2, 3}, {3, 6}, {7, 8}, {8, -9}, {999, -9}};
     for (int[] r : rows) due("ruin with CREDIT " + r[0], x.ruin(0, 0, 1, 2, r[0], 10), r[1]);
@@ -542,7 +492,7 @@ public final class PromiseTests {
     due("CREDIT above", x.ruin(0, 0, 1, 0, 1000, 1), -6);
     due("n above", x.ruin(0, 0, 1, 0, 0, 31), -6);
     refusals(x, 2, 0, 0, 3, 3);
-    promise = 27;
+    says("promise 27");
     int[] has = {-2, 1, -1, -3, 0, -2, -4, -6, -8, -5};
     for (int n = 1; n <= 10; n++) due("owes " + n, x.owes(0, 0, 1, 2, n), has[n - 1]);
     x.set(2, 1);
@@ -562,7 +512,7 @@ public final class PromiseTests {
   }
 
   private static void manyDebts() {
-    promise = 28;
+    says("promise 28");
     HalfOrNine x = ordinary();
     int[] starts = {1, -7, MOST - 10};
     for (int z : starts) {
@@ -589,7 +539,7 @@ public final class PromiseTests {
   }
 
   private static void rows() {
-    promise = 29;
+    says("promise 29");
     HalfOrNine x = ordinary();
     due("row below", x.row(-1), -4);
     due("row above", x.row(1000), -6);
@@ -598,7 +548,7 @@ public final class PromiseTests {
     due("below ahead of no room", x.row(-1), -4);
     due("HARVESTS of the ROW", x.count(5), 16);
     refusals(x, 0, 0, 0, 2, 2);
-    promise = 30;
+    says("promise 30");
     due("no PAINS", x.judge(3, 1), -1);
     due("no PAINS", x.judge(-1, 1), -1);
     due("it stays", x.count(5), 16);
@@ -623,10 +573,10 @@ public final class PromiseTests {
   }
 
   private static void images() {
-    promise = 31;
+    says("promise 31");
     HalfOrNine x = ordinary();
     due("image", x.image(), 7);
-    promise = 32;
+    says("promise 32");
     field(x, "g1;p9,9;w9,9;o9;m9,9;e9,9;s9,1;");
     term(x, "w1");
     feed(x, "g");
@@ -646,11 +596,11 @@ public final class PromiseTests {
     due("THE IMAGE stays", x.restore(), 7);
     due("GROWS again", x.set(0, 2), 10);
     due("a TERM again", x.termOf(5, 3), 4);
-    promise = 31;
+    says("promise 31");
     due("another IMAGE", x.image(), 7);
     x.restore();
     due("of what is then", x.set(0, 3), 2);
-    promise = 32;
+    says("promise 32");
     x = new HalfOrNine();
     due("there is none", x.restore(), -3);
     due("of nothing", x.image(), 0);
@@ -662,7 +612,7 @@ public final class PromiseTests {
   }
 
   private static void counts() {
-    promise = 33;
+    says("promise 33");
     HalfOrNine x = ordinary();
     feed(x, "g10");
     x.row(1);
@@ -700,7 +650,6 @@ public final class PromiseTests {
     rows();
     images();
     counts();
-    System.out.println(checks + " checks, " + wrong + " wrong");
-    if (wrong != 0) System.exit(1);
+    end();
   }
 }
