@@ -120,7 +120,7 @@ public final class RefusalTests extends Checks {
   private static HalfOrNine object(int terms, String... fields) {
     HalfOrNine x = new HalfOrNine();
     for (String f : fields) field(x, f);
-    String[] texts = {"p1/2", "f9", "w6", "x1/2+3", "y1/4+1", "t5+4", "p9/9", "f0"};
+    String[] texts = {"y1/4+1", "f9", "w6", "x1/2+3", "p1/2", "t5+4", "p9/9", "f0"};
     for (int t = 0; t < terms; t++) term(x, texts[t]);
     return x;
   }
@@ -216,9 +216,41 @@ public final class RefusalTests extends Checks {
     refusals(x, 0, 0, 1, 0, 0);
   }
 
+  /** What a call looks at anew (DUNG, GOOD, HAIL, a YEAR, trial TERMS) plays no part in the next. */
+  private static void answersStandAlone() {
+    says("an answer is the same whatever was asked ahead of it");
+    String[] fields = {EIGHT_STEPS, "g17;w10,0;w20,50;w30,120;w9,300;w10,99;", "s2,0;o3;m20,4;e30,6;"};
+    List<Face> all = faces(8, 8, 6);
+    for (Face ahead : all) {
+      HalfOrNine x = object(8, fields);
+      int[] n = asked(ahead, true);
+      ahead.call().of(x, n);
+      for (Face f : all) {
+        if (f.name().equals("count")) continue;
+        for (boolean great : new boolean[] {true, false}) {
+          long alone = f.call().of(object(8, fields), asked(f, great));
+          due(f.name() + " behind " + ahead.name(), f.call().of(x, asked(f, great)), alone);
+          ahead.call().of(x, n);
+        }
+      }
+      refusals(x, 0, 0, 0, 0, 0);
+    }
+  }
+
+  /** The greatest numbers that are taken, or the least but for PAINS. */
+  private static int[] asked(Face f, boolean great) {
+    int[] n = new int[f.ranges().length];
+    for (int i = 0; i < n.length; i++) {
+      Range r = f.ranges()[i];
+      n[i] = great || (r.kind() == Kind.NOBODY && i == 1) ? r.most() : r.least();
+    }
+    return n;
+  }
+
   public static void main(String[] args) {
     sweepAll();
     nothingChanges();
+    answersStandAlone();
     end();
   }
 }

@@ -67,6 +67,12 @@ public final class WorthEdgeTests extends Checks {
     painsAre(many(7, "p1,0;") + "p0,7;", "f0", 0);
     painsAre(many(7, "p1,0;") + "p0,8;", "f0", 8);
     painsAre("g10;p1,5;", "w99", 0);
+    painsAre("g10;p9,10;", "f0", 1);
+    painsAre("g10;p10,10;", "f0", 0);
+    painsAre("g90;p8,10;m99,0;", "f0", 1);
+    painsAre("g90;p9,10;m99,0;", "f0", 0);
+    painsAre("g0;p1,10;w1,110;m0,1;", "f0", 1);
+    painsAre("g0;p1,10;w1,100;m0,1;", "f0", 0);
     says("BEST PAINS in YEAR 0");
     painsAre("g10;p1,2;", "y1/2+1", 0);
   }
@@ -160,6 +166,8 @@ public final class WorthEdgeTests extends Checks {
     proofIs("g99;p0,99;o150;e33,0;", 10, -9, -9);
     says("PROOF: PARTS A by 12 (A 0 .. 12)");
     proofIs("g10;o10;", 12, 0, -9);
+    proofIs("g12;o12;", 12, 0, -9);
+    proofIs("g12;o13;", -9, -9, -9);
     proofIs("g0;", 0, 0, 0);
     says("PROOF: SUMS 0 .. 60");
     proofIs("g99;o40;", 159, 0, 9000);
@@ -175,6 +183,10 @@ public final class WorthEdgeTests extends Checks {
     proofIs("g0;p99,99;p1,99;", 7, 0, 83000);
     proofIs("g0;p60,99;p60,99;", 8, 0, 66000);
     proofIs("g10;p3,10;w50,0;", 0, 500, 2500);
+    proofIs("g0;p0,20;w50,0;", 1, 500, 4500);
+    proofIs("g99;p0,99;m0,5;o49;", 6, 1000, 0);
+    proofIs("g99;p0,99;m0,5;o50;", 7, -9, -9);
+    proofIs("g99;p0,99;m0,7;o69;", 6, 0, 0);
     says("SEED is taken in GAP, too, where it is his");
     proofIs("g10;s5,0;", 6, 0, 0);
     proofIs("g10;s5,1;", 0, 0, 5000);
@@ -242,6 +254,11 @@ public final class WorthEdgeTests extends Checks {
     looksIs("g10;", "x1/2+9", 3, -9);
     looksIs("g10;", "x1/2+9", 4, 100);
     looksIs("g10;", "x1/2+9", 5, 82);
+    looksIs("g2;w2,100;w1,200;w97,0;", "t1+99", 97, -9);
+    looksIs("g2;w2,100;w1,200;w97,0;", "t1+99", 98, 100);
+    says("LOOKS of a TERM with PAINS in YEAR 0");
+    looksIs("g10;", "y2/3+1", 0, 40);
+    due("PAINS 1", with("g0;p9,10;", "p1/2").looks(0, 1, 0), 50);
     says("found, he has nothing and pays a FINE; SEED is taken all the same");
     looksIs("g10;s2,0;", "p1/2", 0, 42);
     looksIs("g10;s2,1;", "p1/2", 0, 50);

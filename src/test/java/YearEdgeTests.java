@@ -92,6 +92,7 @@ public final class YearEdgeTests extends Checks {
     leavingIs("", "w0", 5, 5, 5, 5, 5, 5, 5, 5, 5, 5);
     leavingIs("", "p4/5", 5, 3);
     leavingIs("g0;" + many(8, "p99,0;"), "f99", 5);
+    leavingIs("g10;w99,80;m0,5;", "f0", 5, 3);
   }
 
   private static void offerIs(HalfOrNine x, int one, int other, int good, int want) {
@@ -160,6 +161,8 @@ public final class YearEdgeTests extends Checks {
       partsIs(x, 0, 0, good, 0);
     }
     refusals(x, 0, 0, 0, 0, 0);
+    HalfOrNine y = with("g0;p0,10;", "w10", "f0");
+    for (int good = 1; good <= 9; good++) partsIs(y, 0, 1, good, 1);
     says("offer, parts: -1 (TERM, GOOD; of parts GOOD 0, too)");
     int[] none = {-1, 2, 8, LEAST, MOST};
     for (int n : none) {
@@ -191,6 +194,11 @@ public final class YearEdgeTests extends Checks {
     ownIs("g0;" + many(8, "p0,9;"), "f0", 10, 8);
     ownIs("g0;" + many(8, "p0,9;"), "f0", 99, 8);
     ownIs("g0;p0,20;" + many(7, "p0,1;"), "f0", 5, 17);
+    ownIs("g10;p3,10;", "f0", 0, 10);
+    ownIs("g90;p8,10;m99,0;", "f0", 0, 10);
+    ownIs("g0;p1,10;w1,110;m0,1;", "f0", 0, 10);
+    ownIs("g0;p0,10;", "f0", 9, 10);
+    ownIs("g0;p0,10;", "f0", 10, 1);
     says("OWN: of several the least");
     ownIs("g0;" + many(8, "p0,9;"), "f0", 9, 8);
     ownIs("g0;p0,20;" + many(7, "p0,1;"), "f0", 1, 17);
@@ -251,7 +259,11 @@ public final class YearEdgeTests extends Checks {
     bearsIs("w1,300;", "p1/2", 50, 2600);
     says("BEARS may be below 0");
     bearsIs("w33,0;w33,0;w34,0;", "p1/2", 50, -50);
+    says("HAIL beside 6 WEATHERS and what they lack: TIMES 0");
+    bearsIs("w10,0;w10,10;w10,20;w10,30;w10,40;w10,50;", "p1/2", 50, 1450);
+    bearsIs("g99;p0,99;", "p1/2", 50, 49500);
     says("BEARS: his BEST PAINS for each");
+    bearsIs("g0;p1,10;", "p1/3", 50, 3500);
     bearsIs("p3,10;", "p1/2", 50, 7500);
     says("bears: -1; -4; -6 50");
     HalfOrNine x = with("", "f0");
@@ -286,6 +298,10 @@ public final class YearEdgeTests extends Checks {
       for (int chance = 1; chance <= 100; chance++) {
         HalfOrNine x = with("g7;w" + chance + ",0;", "f0");
         due("owes of seed " + z + " with CHANCE " + chance, x.owes(0, 0, z, 0, 1), first < chance ? 0 : 7);
+        due("ruin of seed " + z + " with CHANCE " + chance, x.ruin(0, 0, z, 1, 0, 1), first < chance ? 0 : -9);
+        due("ruins of seed " + z + " with CHANCE " + chance, x.ruins(0, 0, z, 1, 0, 1, 1), first < chance ? 1 : 0);
+        x.row(7);
+        due("judge of seed " + z + " with CHANCE " + chance, x.judge(0, z), first < chance ? 0 : -9);
       }
       for (int n = 1; n <= 30; n++) {
         int want = 0;
@@ -338,9 +354,18 @@ public final class YearEdgeTests extends Checks {
     due("RUIN as the SHARE grows", x.ruin(0, 0, 9, 4, 5, 30), 2);
     due("no RUIN as the SHARE grows", x.ruin(0, 0, 9, 4, 6, 30), -9);
     says("PAINS are told");
-    x = with("p9,5;", "f0");
+    x = with("p9,10;", "f0");
     due("owes of PAINS 0", x.owes(0, 0, 1, 0, 1), 10);
-    due("owes of PAINS 1, COST plays no part", x.owes(0, 1, 1, 0, 1), 15);
+    due("owes of PAINS 1, COST plays no part", x.owes(0, 1, 1, 0, 1), 20);
+    due("ruin of PAINS 0", x.ruin(0, 0, 1, 20, 0, 1), 0);
+    due("no ruin of PAINS 1", x.ruin(0, 1, 1, 20, 0, 1), -9);
+    due("ruin of PAINS 1", x.ruin(0, 1, 1, 21, 0, 1), 0);
+    due("no ruins of PAINS 1", x.ruins(0, 1, 1, 20, 0, 1, 1), 0);
+    due("ruins of PAINS 1", x.ruins(0, 1, 1, 21, 0, 1, 1), 1);
+    x.row(20);
+    due("judge of PAINS 1", x.judge(1, 1), -9);
+    x.row(20);
+    due("judge of PAINS 0", x.judge(0, 1), 0);
   }
 
   private static void manySeeds() {
