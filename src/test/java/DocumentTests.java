@@ -99,6 +99,7 @@ public final class DocumentTests extends Checks {
     due("STEPS", x.count(1), 2);
     due("COSTS", x.count(3), 97);
     due("GIVES", x.count(4), 98);
+    fieldIs("p99,99;", 1);
     fieldIs("p100,0;", -2000);
     fieldIs("p0,100;", -2000);
     fieldIs(many(8, "p9,8;"), 8);
@@ -302,12 +303,16 @@ public final class DocumentTests extends Checks {
     due("takes", x.takes(0), 1);
     due("more", x.set(1, 14), 13);
     due("takes", x.takes(0), 0);
+    due("a WORTH of 9990 beside 10", with("g10;w1,99;o10;", "f0").takes(0), 0);
+    due("a WORTH of 9990 beside 9", with("g10;w1,99;o9;", "f0").takes(0), 1);
     reads("MEAN: bushels that one has by CHANCE, by 100, in least terms (0 by 1)");
     x = with("g10;w15,150;", "p1/2");
     int[][] means = {{53, 10}, {109, 20}};
     for (int who = 0; who < 2; who++) {
       for (int part = 0; part < 2; part++) due("mean " + who + " " + part, x.mean(0, who, part), means[who][part]);
     }
+    due("99", with("g1;w1,0;", "f0").mean(0, 0, 0), 99);
+    due("by 100", with("g1;w1,0;", "f0").mean(0, 0, 1), 100);
     x.set(0, 0);
     due("0", x.mean(0, 0, 0), 0);
     due("by 1", x.mean(0, 0, 1), 1);
@@ -328,11 +333,20 @@ public final class DocumentTests extends Checks {
     proofIs("g12;o5;e6,0;", 5, 0, 0);
     proofIs("g12;e9,0;", 0, 0, 3000);
     proofIs("g12;p2,6;o5;e8,0;", 6, 0, 0);
+    proofIs("g99;o40;", 159, 0, 9000);
+    proofIs("g99;o39;", 160, 0, 10000);
+    proofIs("g99;o38;", 160, 1000, 10000);
+    proofIs("g10;o10;", 12, 0, -9);
     reads("-9 none");
     due("proof", with("g12;o13;").proof(), -9);
     reads("GAP: the greatest owner's WORTH, if PAINS can be seen (for each PAINS a WAGE, the least 0 .. 99 with which he,"
         + " bound to these PAINS, TAKES), less that of PROOF");
     proofIs("g0;p2,20;w50,50;m6,0;", 3, 1500, 4000);
+    proofIs("g0;p0,20;w50,0;", 1, 500, 4500);
+    proofIs("g0;p99,99;p0,99;", 7, 16000, 83000);
+    proofIs("g0;p99,99;p1,99;", 7, 0, 83000);
+    proofIs("g99;p0,99;m0,5;o49;", 6, 1000, 0);
+    proofIs("g99;p0,99;m0,7;o69;", 6, 0, 0);
     reads("0 at least");
     proofIs("g0;p2,20;w50,0;m6,0;", 3, 0, 2500);
     reads("-9, if there is no PROOF or there are no such PAINS");
@@ -373,7 +387,11 @@ public final class DocumentTests extends Checks {
     reads("LOOKS: the least hundredths with which BEST LESS is 0; -9");
     due("looks", with("g10;", "w4").looks(0, 0, 0), 72);
     due("looks with a FINE", with("g10;", "w4").looks(0, 0, 7), 36);
+    due("0", with("g10;", "f9").looks(0, 0, 0), 0);
+    due("100", with("g10;", "w0").looks(0, 0, 0), 100);
     due("-9", with("g10;", "x1/2+9").looks(0, 0, 0), -9);
+    due("-9", with("g2;w2,100;w1,200;w97,0;", "t1+99").looks(0, 0, 97), -9);
+    due("100", with("g2;w2,100;w1,200;w97,0;", "t1+99").looks(0, 0, 98), 100);
   }
 
   private static void yearsAre(HalfOrNine x, int dung, int n, long set, long sum) {
@@ -407,11 +425,15 @@ public final class DocumentTests extends Checks {
     yearsAre(with("w100,80;", "f0"), 0, 2, 0, 16000);
     reads("a set of YEARS in which he DUNGS (bits); its sum");
     yearsAre(with("", "f0"), 0, 3, 3, 37000);
+    yearsAre(with("m15,0;", "f0"), 0, 3, 3, 32000);
+    yearsAre(with("", "f0"), 0, 10, 511, 184000);
     reads("LEAVING: the least pay (0 .. 99 a DUNG that lies there at the end, 1000 each in WORTH) for which he DUNGS in"
         + " the last YEAR");
     due("one DUNG more", with("", "f0").leaving(0, 1), 5);
     due("two DUNG more", with("", "f0").leaving(0, 2), 3);
     due("both YEARS for the pay", with("", "w0").leaving(0, 2), 5);
+    due("one DUNG more of ten YEARS", with("", "f0").leaving(0, 10), 5);
+    due("2005 of bushels and twice 3000 of pay for twice COST 4", with("g10;w99,80;m0,5;", "f0").leaving(0, 2), 3);
   }
 
   private static void sorts() {
@@ -424,6 +446,8 @@ public final class DocumentTests extends Checks {
       x.set(1, gives[good]);
       due("offer to GOOD " + good, x.offer(0, 0, good), -9);
     }
+    due("each STEP is cut by itself", with("g0;p0,5;p0,5;o11;", "f0").offer(0, 0, 1), -9);
+    due("each STEP is more", with("g0;p0,5;p0,5;o12;", "f0").offer(0, 0, 2), 0);
     due("GROWS is the same", with("g10;o11;", "f0").offer(0, 0, 9), -9);
     reads("OFFER of two TERMS: a man of a SORT takes that of which his WORTH (his BEST PAINS) is greater (ties: the first)");
     HalfOrNine x = with("g10;p3,10;", "f12", "p1/2");
@@ -437,7 +461,12 @@ public final class DocumentTests extends Checks {
     reads("PARTS THEM: whether GOOD 0 and a told GOOD take unlike ones: 1, 0");
     due("unlike ones", x.parts(0, 1, 5), 1);
     due("like ones", x.parts(0, 1, 1), 0);
+    HalfOrNine y = with("g0;p0,10;", "w10", "f0");
+    due("GOOD 0 and GOOD 1", y.parts(0, 1, 1), 1);
     reads("or none, if that is below OTHER: 0, 1, -9");
+    x.set(1, 7);
+    due("one is below", x.offer(0, 1, 0), 1);
+    due("one is below, turned", x.offer(1, 0, 0), 0);
     x.set(1, 8);
     due("none", x.offer(0, 1, 0), -9);
     due("none", x.offer(0, 1, 1), -9);
@@ -445,6 +474,41 @@ public final class DocumentTests extends Checks {
     reads("to take none is another answer than to take one");
     due("none and one", x.parts(0, 1, 4), 1);
     due("none and none", x.parts(0, 1, 1), 0);
+  }
+
+  /** Each of its own object: what another call had in mind plays no part, either. */
+  private static void nothingInMind() {
+    says("GOOD, HAIL, DUNG and YEARS are in mind where the document names them, and in no other call");
+    due("harvest", with("g10;p1,10;").harvest(1, 0), 20);
+    due("worth", with("g10;p1,10;", "f5").worth(0, 1, 0), 14000);
+    due("pains without GOOD", with("g10;p10,10;", "f0").pains(0), 0);
+    due("pains without DUNG", with("g10;p2,5;w100,50;", "f0").pains(0), 0);
+    due("pains without HAIL", with("g0;p99,50;w100,200;", "f0").pains(0), 1);
+    due("takes", with("g10;p10,10;o11;", "f0").takes(0), 0);
+    due("mean", with("g10;p1,10;", "f5").mean(0, 0, 0), 15);
+    due("proof", with("g10;p3,10;o17;").proof(), 12);
+    due("less", with("g0;p1,10;", "w0").less(0, 1, 0, 0), 10);
+    due("less without HAIL", with("g10;w1,300;w99,0;", "w4").less(0, 0, 80, 0), 20);
+    due("looks without GOOD", with("g0;p1,10;", "w4").looks(0, 1, 0), 72);
+    due("looks without HAIL", with("g10;w1,300;w99,0;", "w4").looks(0, 0, 0), 84);
+    due("years", with("g10;p3,10;", "f0").years(0, 0, 1, 1), 17000);
+    due("own without GOOD", with("g0;p0,10;", "f0").own(0, 10), 1);
+    due("own without HAIL", with("g0;p99,50;w100,200;", "f0").own(0, 0), 10);
+    due("bears", with("g0;p0,10;", "p1/2").bears(0, 50), 2500);
+    due("ruin without GOOD", with("g0;p0,10;", "f0").ruin(0, 1, 1, 11, 0, 1), 0);
+    due("ruin without HAIL", with("w19,0;w20,50;", "f0").ruin(0, 0, 1, 6, 0, 1), 0);
+    due("owes without GOOD", with("g0;p0,10;", "f0").owes(0, 1, 1, 0, 1), 10);
+    due("owes without HAIL", with("w19,0;w20,50;", "f0").owes(0, 0, 1, 0, 1), 5);
+    due("ruins without GOOD", with("g0;p0,10;", "f0").ruins(0, 1, 1, 11, 0, 1, 1), 1);
+    due("no ruins without GOOD", with("g0;p0,10;", "f0").ruins(0, 1, 1, 10, 0, 1, 1), 0);
+    due("ruins without HAIL", with("w19,0;w20,50;", "f0").ruins(0, 0, 1, 6, 0, 1, 1), 1);
+    HalfOrNine x = with("w19,0;w20,50;");
+    x.row(5);
+    due("judge", x.judge(0, 1), -9);
+    x = with("", "y1/2+1");
+    x.years(0, 3, 10, 0);
+    due("worth behind years", x.worth(0, 0, 0), 5000);
+    due("mean behind years", x.mean(0, 0, 0), 5);
   }
 
   private static void ownIs(String field, String term, int b, int want) {
@@ -474,7 +538,9 @@ public final class DocumentTests extends Checks {
     HalfOrNine x = with("", "p1/2");
     due("of 20", x.bears(0, 20), 1000);
     due("of 0", x.bears(0, 0), 0);
+    due("of 1", x.bears(0, 1), 50);
     due("of 50", x.bears(0, 50), 2500);
+    due("nothing of 198", with("g99;p0,99;", "p1/2").bears(0, 50), 49500);
     due("of 51", x.bears(0, 51), TOLD_LONG + 6);
     due("in mind only", x.count(2), 1);
     reads("the others' CHANCES less in step (CHANCE times (100 less it), over 100, cut; what lacks is TIMES 100)");
@@ -492,6 +558,13 @@ public final class DocumentTests extends Checks {
     HalfOrNine x = with(BY_DRAWS, "f0");
     int[] has = {20, 30, 35, 40, 60, 65, 70, 75, 80, 90};
     for (int n = 1; n <= 10; n++) due("owes behind " + n, x.owes(0, 0, 1, 0, n), has[n - 1]);
+    due("DRAW 47 by seed 3", with("w47,0;", "f0").owes(0, 0, 3, 0, 1), 10);
+    due("DRAW 47 by seed 3", with("w48,0;", "f0").owes(0, 0, 3, 0, 1), 0);
+    due("DRAW 55 by seed 5", with("w55,0;", "f0").owes(0, 0, 5, 0, 1), 10);
+    due("DRAW 55 by seed 5", with("w56,0;", "f0").owes(0, 0, 5, 0, 1), 0);
+    int[] seeds = {-1, MOST, LEAST, 0, 1 << 30};
+    int[] owes = {270, 270, 295, 295, 325};
+    for (int i = 0; i < seeds.length; i++) due("by seed " + seeds[i], x.owes(0, 0, seeds[i], 0, 30), owes[i]);
     reads("the first WEATHER below whose CHANCES together it is");
     due("38 is not below 38", with("w38,0;", "f0").owes(0, 0, 1, 0, 1), 10);
     due("38 is below 39", with("w39,0;", "f0").owes(0, 0, 1, 0, 1), 0);
@@ -507,6 +580,7 @@ public final class DocumentTests extends Checks {
     due("not yet", x.ruin(0, 0, 1, 9, 0, 8), -9);
     due("31 YEARS", x.ruin(0, 0, 1, 9, 0, 31), -6);
     due("0 YEARS", x.ruin(0, 0, 1, 9, 0, 0), -4);
+    due("CREDIT 999", x.ruin(0, 0, 1, 9, 999, 30), -9);
     due("CREDIT 1000", x.ruin(0, 0, 1, 9, 1000, 1), -6);
     HalfOrNine y = with("g20;", "y1/20+1");
     due("ruin as his PART rises", y.ruin(0, 0, 1, 5, 9, 30), 3);
@@ -529,6 +603,7 @@ public final class DocumentTests extends Checks {
   private static void onceMore() {
     reads("of like sums he does not DUNG, YEAR by YEAR from the first on");
     yearsAre(with("m20,0;", "f0"), 3, 3, 2, 56000);
+    yearsAre(with("m20,0;", "f0"), 3, 4, 2, 76000);
     reads("TERMS have numbers as FIELDS have, and their FAULT goes from the left (a number out of range at its first digit)");
     termIs("f007", -22);
     termIs("w1000", -21);
@@ -694,6 +769,8 @@ public final class DocumentTests extends Checks {
     due("a ninth", term(x, "p2/3"), -6);
     due("it stays", x.count(6), 4);
     refusals(x, 0, 0, 0, 1, 2);
+    termIs("", -20);
+    termIs("q1/2", -20);
     termIs("p12;34", -23);
     termIs("x12/34+567", -27);
     termIs("y12/11+3", -24);
@@ -722,6 +799,8 @@ public final class DocumentTests extends Checks {
     due("no what", x.set(8, 0), -2);
     due("below", x.set(5, -1), -4);
     due("above", x.set(5, 11), -6);
+    due("above", x.set(1, 1000), -6);
+    due("the greatest", x.set(1, 999), 0);
     reads("Of a WEATHER (the one that CHANCES lack, too): CHANCE (what 0), TIMES (1). -1; -2.");
     x = with("g10;p1,1;w12,34;", "f12", "p1/1");
     int[][] want = {{12, 34}, {88, 100}};
@@ -873,6 +952,8 @@ public final class DocumentTests extends Checks {
   private static void lastPromises() {
     reads("A HARVEST more of the ROW: how many. -4; -6 (999; 16, too).");
     HalfOrNine x = with("p4,5;", "w1", "w2");
+    due("the least", with("").row(0), 1);
+    due("the greatest", with("").row(999), 1);
     for (int i = 1; i <= 16; i++) due("row", x.row(10), i);
     due("below", x.row(-1), -4);
     due("above", x.row(1000), -6);
@@ -941,6 +1022,7 @@ public final class DocumentTests extends Checks {
     saying();
     dung();
     sorts();
+    nothingInMind();
     owns();
     hail();
     debts();
